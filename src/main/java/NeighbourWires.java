@@ -32,7 +32,6 @@ public final class NeighbourWires {
         for (int k = 0; k < sheets.length; k++) {
             sheets[k] = new Sheet();
         }
-        torn = 0;
     }
 
     // ---- the text
@@ -809,15 +808,13 @@ public final class NeighbourWires {
 
     /** The row sent over one wire more, which tells whether a word is turned round. */
     private static final class Turns {
-        private static final int BY_COUNT = 1, BY_COST = 2, BY_ALL_COST = 3;
+        private static final int NEVER = 0, BY_COUNT = 1;
         int cost;
         int count;
         int first;
         int slowest;
         private final Plan plan;
         private final Change change;
-        /** What all changes from one on cost at the least, if what lies there is turned or not. */
-        private final int[] later = new int[2 * (ROW_ROOM + 1)];
 
         Turns(Plan plan, Change change) {
             this.plan = plan;
@@ -830,7 +827,6 @@ public final class NeighbourWires {
             count = 0;
             first = NONE;
             slowest = 0;
-            weighLater(way);
             int before = 0;
             for (int i = 0; i < plan.length; i++) {
                 int turn = isTurned(way, i, before) ? 1 : 0;
@@ -844,48 +840,32 @@ public final class NeighbourWires {
             }
         }
 
-        /** Nothing counts as later but in the way that looks at the whole row. */
-        private void weighLater(int way) {
-            for (int i = 0; i < later.length; i++) {
-                later[i] = 0;
-            }
-            if (way != BY_ALL_COST) {
-                return;
-            }
-            for (int i = plan.length - 1; i >= 0; i--) {
-                for (int before = 0; before <= 1; before++) {
-                    int index = 2 * i + before;
-                    if (index < later.length) {
-                        later[index] = Math.min(costFrom(i, before, 0), costFrom(i, before, 1));
-                    }
-                }
-            }
-        }
-
+        /**
+         * The least of each change is the least over the whole row, too: with both words
+         * turned, or each the other way, every wire moves the other way and all costs the
+         * same, so no choice weighs on a later one.
+         */
         private boolean isTurned(int way, int i, int before) {
-            if (way == BY_COUNT) {
-                int wires = (1 << plan.wires) - 1;
-                int moving = (lyingBefore(i, before) ^ plan.laidBefore(i + 1)) & wires;
-                return 2 * Integer.bitCount(moving) > plan.wires;
+            switch (way) {
+                case NEVER: return false;
+                case BY_COUNT: return 2 * movesOtherwise(i, before) > plan.wires;
+                default: return costOf(i, before, 1) < costOf(i, before, 0);
             }
-            boolean byCost = way == BY_COST || way == BY_ALL_COST;
-            return byCost && costFrom(i, before, 1) < costFrom(i, before, 0);
         }
 
-        private int costFrom(int i, int before, int turn) {
-            int index = 2 * (i + 1) + turn;
-            int behind = index >= 0 && index < later.length ? later[index] : 0;
-            return costOf(i, before, turn) + behind;
+        /** How many of the wires, without the one more, would move if word i were not turned. */
+        private int movesOtherwise(int i, int before) {
+            int wires = (1 << plan.wires) - 1;
+            return Integer.bitCount((lying(i, before) ^ lying(i + 1, 0)) & wires);
         }
 
         private int costOf(int i, int before, int turn) {
-            int from = lyingBefore(i, before);
-            int to = lyingBefore(i + 1, turn);
-            change.between(from, to, plan.wires + 1, plan.shields);
+            change.between(lying(i, before), lying(i + 1, turn), plan.wires + 1, plan.shields);
             return change.cost(plan.own, plan.side);
         }
 
-        private int lyingBefore(int i, int turn) {
+        /** What lies on all wires ahead of change i, if the word there was turned or not. */
+        private int lying(int i, int turn) {
             int all = (1 << (plan.wires + 1)) - 1;
             return turn == 1 ? plan.laidBefore(i) ^ all : plan.laidBefore(i);
         }
@@ -894,6 +874,7 @@ public final class NeighbourWires {
     /** The machines of every k over the same wires, by numbers and without shields. */
     private static final class Machine {
         static final int BOOK_WIRES = 4;
+        private static final int BOOK_WORDS = 1 << BOOK_WIRES;
         private static final int WORDS = 1 << MOST_WIRES;
         /** A set of words is as many longs. */
         private static final int PARTS = 4, PART_BITS = 64;
@@ -1046,13 +1027,13 @@ public final class NeighbourWires {
         /**
          * Every book that holds the set and takes its other words of the open ones, least
          * words first: so the first of the greatest is the one that is due. The set has a
-         * word more at each level, of at most 16.
+         * word more at each level, so its size is the depth.
          */
         private static int grow(long[] near, int row, int set, int open, int best) {
             int size = Integer.bitCount(set);
             int greatest = size > Integer.bitCount(best) ? set : best;
             int rest = open;
-            for (int word = 0; word < 1 << BOOK_WIRES; word++) {
+            for (int word = 0; size < BOOK_WORDS && word < BOOK_WORDS; word++) {
                 if (size + Integer.bitCount(rest) <= Integer.bitCount(greatest)) {
                     return greatest;
                 }
@@ -1112,18 +1093,14 @@ public final class NeighbourWires {
                 kind = END;
                 ahead = size;
             } else if (isWithin(sign, 'a', 'z')) {
-                nextName();
+                ahead = endOfRun(start, 'a', 'z');
+                value = nameNumber();
+                kind = value == 0 ? WRONG : NAME;
             } else if (isWithin(sign, '0', '9')) {
                 nextNumber();
             } else {
                 kind = sign == ';' ? STOP : WRONG;
             }
-        }
-
-        private void nextName() {
-            ahead = endOfRun(start, 'a', 'z');
-            value = nameNumber();
-            kind = value == 0 ? WRONG : NAME;
         }
 
         private int nameNumber() {

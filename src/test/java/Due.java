@@ -44,6 +44,13 @@ final class Due {
         return v;
     }
 
+    /** Eight signs as one number, without making anything. */
+    static long eightOf(char a, char b, char c, char d, char e, char f, char g, char h) {
+        long left = (long) a << 24 | b << 16 | c << 8 | d;
+        long right = (long) e << 24 | f << 16 | g << 8 | h;
+        return left << 32 | right;
+    }
+
     /** A text from an empty tape: its answer and its fault. */
     static void text(NeighbourWires x, String text, int answer, int fault) {
         feed(x, text);
