@@ -14,6 +14,11 @@ final class Due {
         }
     }
 
+    /** How many answers were not as due up to now. */
+    static int wrong() {
+        return wrong;
+    }
+
     static void dueTrue(String what, boolean holds) {
         due(what, holds ? 1 : 0, 1);
     }
