@@ -43,6 +43,17 @@ public final class MachinesEdgesTest {
         Due.due("only 0 to 3 of 4 WORDS", x.ways(4, 2), 4);
     }
 
+    static void promise23OfFewerWiresThanBefore() {
+        NeighbourWires x = eight();
+        Due.due("n 8: ways(4, 0)", x.ways(4, 0), 256);
+        Due.text(x, "wires 2;", 1, 0);
+        Due.due("n 2: ways(4, 0)", x.ways(4, 0), 4);
+        Due.due("n 2: ways(0, 1)", x.ways(0, 1), 1);
+        Due.due("n 2: ways(4, 4)", x.ways(4, 4), -1);
+        Due.text(x, "wires 3;", 1, 0);
+        Due.due("n 3: ways(4, 4)", x.ways(4, 4), 8);
+    }
+
     static void promise23NothingElseMattersOrChanges() {
         for (int k = 0; k <= 4; k++) {
             int slow = k;
@@ -201,6 +212,32 @@ public final class MachinesEdgesTest {
         Due.due("to 3, over 1 and 2, which are not KEPT", x.encode(0, 1, 1, 1), 3);
         Due.due("and back", x.encode(0, 1, 1, 2), 0);
         Due.due("by k 1 to 1", x.encode(1, 1, 1, 1), 1);
+    }
+
+    /** With k 1 there go ways from 0 to 0, 1, 3 and on, from 3 to 0, 2, 3 and on. */
+    static void promise26ByTheWaysOfTheWordItIsAt() {
+        NeighbourWires x = Edge.wired(3);
+        Due.due("number 0", x.encode(1, 2, 0, 1), 0);
+        Due.due("number 1", x.encode(1, 2, 1, 1), 1);
+        Due.due("number 2", x.encode(1, 2, 2, 1), 3);
+        Due.due("number 3", x.encode(1, 2, 3, 1), 4);
+        Due.due("numbers 2, 0", x.encode(1, 2, 2, 2), 0);
+        Due.due("numbers 2, 1", x.encode(1, 2, 2 + 4, 2), 2);
+        Due.due("numbers 2, 2", x.encode(1, 2, 2 + 8, 2), 3);
+        Due.due("numbers 2, 3", x.encode(1, 2, 2 + 12, 2), 6);
+    }
+
+    static void promise26WhereSomeAreNotKept() {
+        int[] numbers = {0, 1, 0x0F0F0F0, 0x1234567, 0x7654321, 0xFEDCBA9, 0x5A5A5A5, 0x7FFFFFF};
+        Model y = new Model();
+        y.n = 5;
+        for (int v : numbers) {
+            NeighbourWires x = Edge.wired(5);
+            for (int count = 0; count <= 8; count++) {
+                String call = "encode(2, 4, " + v + ", " + count + ")";
+                Due.due(call, x.encode(2, 4, v, count), y.encode(2, 4, v, count));
+            }
+        }
     }
 
     // ---- promise 27: decode

@@ -172,6 +172,21 @@ public final class RowEdgesTest {
         rowIs(x, 3, 2, 1, 1, 39, 39, 0, 1, 0, 0);
     }
 
+    static void promise14AsManyChangesAsWords() {
+        int[] lengths = {0, 1, 2, 39, 40};
+        for (int length : lengths) {
+            NeighbourWires x = new NeighbourWires();
+            for (int i = 0; i < length; i++) {
+                x.send(i * 7 & 15);
+            }
+            int changes = 0;
+            for (int slow = 0; slow <= 4; slow++) {
+                changes += x.row(10 + slow);
+            }
+            Due.due("CHANGES of " + length + " WORDS", changes, length);
+        }
+    }
+
     static void promise14SlowOfEachSize() {
         NeighbourWires x = Due.told("wires 3;send 7 6 4 3 5 2;", 2);
         rowIs(x, 3 + 2 + 3 + 7 + 7 + 11, 4, 1, 3 + 1 + 1 + 3 + 2 + 3, 5, 1, 1, 2, 1, 1);
@@ -219,6 +234,16 @@ public final class RowEdgesTest {
         Due.due("SIDE 0", Due.told("side 0;send 5 10 9;", 2).best(1), 123);
         Due.due("SIDE 1", Due.told("side 1;send 5;", 2).best(1), 213);
         Due.due("OWN 0, SIDE 0", Due.told("own 0;side 0;send 5 10;", 3).best(0), 0);
+    }
+
+    static void promise15TheFirstPlaceIsNotAlwaysThatOfWire0() {
+        NeighbourWires x = Due.told("wires 3;send 2 4;", 2);
+        Due.due("best(0)", x.best(0), 3 + 3);
+        Due.due("best(1)", x.best(1), 102);
+        x.order(102);
+        Due.due("row(0)", x.row(0), 6);
+        x.order(21);
+        Due.due("row(0)", x.row(0), 9);
     }
 
     static void promise15TheMostWiresAndTheLongestRow() {
@@ -274,6 +299,9 @@ public final class RowEdgesTest {
         x.send(10);
         Due.due("shields(3, 0) of 40", x.shields(3, 0), 1);
         Due.due("shields(2, 0) of 40", x.shields(2, 0), 3);
+        x = Due.told("send 15 3 2;", 1);
+        Due.due("no CHANGE back to 0: shields(1, 0)", x.shields(1, 0), 0);
+        Due.due("no CHANGE back to 0: shields(0, 0)", x.shields(0, 0), -4);
         x = Due.told("send 0;", 1);
         x.empty();
         x.send(4);
@@ -386,6 +414,8 @@ public final class RowEdgesTest {
     static void promise17ByWhatLiesOnThem() {
         turnedIs(Due.told("own 1;side 0;send 15 8;", 3), 1, 1 + 2, 1, 0);
         turnedIs(Due.told("own 1;side 0;send 15 0;", 3), 1, 1 + 1, 1, 0);
+        turnedIs(Due.told("own 1;side 0;send 3 7;", 3), 1, 2 + 1, 0, -4);
+        turnedIs(Due.told("own 1;side 0;send 3 12;", 3), 1, 2 + 1, 1, 1);
     }
 
     static void promise17TurnedIfItCostsLess() {
@@ -408,6 +438,7 @@ public final class RowEdgesTest {
             turnedIs(Due.told("own 0;side 0;send 15 0 15;", 3), way, 0, 0, -4);
             turnedIs(Due.told("wires 3;side 0;send 3 4 7;", 3), way, 2 + 1 + 2, 1, 1);
             turnedIs(Due.told("wires 3;side 0;send 7 4;", 3), way, 1 + 2, 1, 0);
+            turnedIs(Due.told("wires 3;side 0;send 3 4 4 4;", 3), way, 2 + 1, 3, 1);
         }
     }
 

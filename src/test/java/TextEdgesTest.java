@@ -319,6 +319,10 @@ public final class TextEdgesTest {
             Due.text(x, name + " 4;" + name + " 999;", -13 - name.length(), 4);
         }
         Due.text(x, "own 4; side 4; wires 4;", 3, 0);
+        Due.text(x, "own 4; side 4; wires 4; own 4;", -34, 4);
+        Due.text(x, "own 4; side 4; wires 4; side 4;", -34, 4);
+        Due.text(x, "wires 4; side 4; own 4; wires 4;", -34, 4);
+        Due.text(x, "own 4; send 4; shield 0; own 4;", -35, 4);
     }
 
     static void promise04OwnAndSide0To99() {
@@ -519,7 +523,8 @@ public final class TextEdgesTest {
         Due.due("sent(0)", x.sent(0), 12);
         Due.text(x, "send1 2;", 1, 0);
         Due.due("sent(0)", x.sent(0), 1);
-        String[] names = {"wire", "wiress", "sid", "sides", "shiel", "shields", "sen", "sends", "ste", "steps", "a", "z"};
+        String[] names = {"wire", "wiress", "sid", "sides", "shiel", "shields", "sen", "sends", "ste", "steps", "a", "z",
+            "xires", "xwn", "xide", "xhield", "xend", "xtep", "wirex", "owx", "sidx", "shielx", "senx", "stex"};
         for (String name : names) {
             Due.text(x, name + " 2;", -10, 1);
         }
