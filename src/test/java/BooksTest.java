@@ -99,9 +99,11 @@ public final class BooksTest {
             y.n = n;
             for (int kind = 0; kind <= 1; kind++) {
                 Due.due("n " + n + ": slowest(" + kind + ")", x.slowest(kind), y.slowest(kind));
+                NeighbourWires asked = Edge.wired(n);
+                NeighbourWires answered = Edge.wired(n);
                 for (int i = 0; i < 1 << n; i++) {
-                    Due.due("n " + n + ": word(" + kind + ", " + i + ")", x.word(kind, i), y.word(kind, i));
-                    Due.due("n " + n + ": place(" + kind + ", " + i + ")", x.place(kind, i), y.place(kind, i));
+                    Due.due("n " + n + ": word(" + kind + ", " + i + ")", asked.word(kind, i), y.word(kind, i));
+                    Due.due("n " + n + ": place(" + kind + ", " + i + ")", answered.place(kind, i), y.place(kind, i));
                 }
             }
             for (int k = 0; k <= 4; k++) {

@@ -11,6 +11,8 @@ import java.util.Set;
 public final class RoomTest {
     /** Some 600,000 objects and 7.3 million elements are there for one run of 512 calls. */
     private static final int MOST_OBJECTS = 60, MOST_ELEMENTS = 9000;
+    /** As many rounds of all calls as one object is promised for: 512 calls. */
+    private static final int ROUNDS = 14;
 
     private static int objects = 0;
     private static int elements = 0;
@@ -21,12 +23,16 @@ public final class RoomTest {
         Due.dueTrue(objects + " objects are few", objects <= MOST_OBJECTS);
         Due.dueTrue(elements + " elements are few", elements <= MOST_ELEMENTS);
         callAll(x);
+        NeighbourWires[] others = new NeighbourWires[20];
+        for (int i = 0; i < others.length; i++) {
+            others[i] = new NeighbourWires();
+        }
         long had = allocated();
-        for (int i = 0; i < 200; i++) {
-            callAll(x);
+        for (int i = 0; i < others.length * ROUNDS; i++) {
+            callAll(others[i / ROUNDS]);
         }
         long made = allocated() - had;
-        Due.dueTrue("200 rounds of all calls made " + made + " bytes, due are none", made < 20000);
+        Due.dueTrue("all calls, in many rounds, made " + made + " bytes, due are none", made < 20000);
         Due.finish();
     }
 

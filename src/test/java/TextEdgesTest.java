@@ -543,17 +543,17 @@ public final class TextEdgesTest {
     }
 
     static void promise04SignsBesideThoseOfTokens() {
-        NeighbourWires x = new NeighbourWires();
         int[] beside = {' ' - 1, ' ' + 1, '0' - 1, '9' + 1, ';' - 1, ';' + 1, 'a' - 1, 'z' + 1, 'A', 'Z', 0, 9, 10, 13,
             127, 128, 160, 255, ' ' + 128, '5' + 128, ';' + 128, 'o' + 128};
         for (int sign : beside) {
             char s = (char) sign;
+            NeighbourWires x = new NeighbourWires();
             Due.text(x, s + "own 7;", -10, 1);
             Due.text(x, "own" + s + " 7;", -13, 1);
             Due.text(x, "own 7" + s + ";", -15, 1);
             Due.text(x, "own 7;" + s, -16, 1);
         }
-        Due.text(x, " own 7 ; ", 1, 0);
+        Due.text(new NeighbourWires(), " own 7 ; ", 1, 0);
     }
 
     // ---- promise 4: which fault is told
