@@ -52,6 +52,9 @@ public final class MachinesEdgesTest {
         Due.due("n 2: ways(4, 4)", x.ways(4, 4), -1);
         Due.text(x, "wires 3;", 1, 0);
         Due.due("n 3: ways(4, 4)", x.ways(4, 4), 8);
+        Due.due("n 3: ways(0, 0)", x.ways(0, 0), 2);
+        Due.text(x, "wires 2;", 1, 0);
+        Due.due("n 2: ways(0, 0)", x.ways(0, 0), 2);
     }
 
     static void promise23NothingElseMattersOrChanges() {
